@@ -155,10 +155,10 @@ public final class StarChart {
     public int term(int what) {
         if (!within(what, 0, 2)) return BAD;
         guess.copyOf(sheet);
-        if (what == 0) return foretell(sheet.from, sheet.until);
+        if (what == 0) return pagesBetween(sheet.from, sheet.until);
         if (what == 2) guess.payNothing();
         int behind = sheet.until + sheet.thin;
-        return foretell(behind, Math.min(behind + DAYS_AFTER, LAST_DAY));
+        return pagesBetween(behind, Math.min(behind + DAYS_AFTER, LAST_DAY));
     }
 
     public int end(int n) {
@@ -389,8 +389,8 @@ public final class StarChart {
         return image == 0 ? first : second;
     }
 
-    /** The guessed class goes from DAY 0 to ahead of a day: the pages of all from another day on. */
-    private int foretell(int fromDay, int toDay) {
+    /** Pages of the guessed class from a day on till ahead of another. */
+    private int pagesBetween(int fromDay, int toDay) {
         dream.begin(guess, 0);
         int read = 0;
         for (int day = 0; day < toDay; day++) {
@@ -402,7 +402,8 @@ public final class StarChart {
 
     /** LIKINGS of the guessed class on a day, added. */
     private int likingOn(int n) {
-        foretell(n, n);
+        dream.begin(guess, 0);
+        for (int day = 0; day < n; day++) dream.pass(guess, tunes);
         return dream.sumOf(dream.liking, guess.children);
     }
 
