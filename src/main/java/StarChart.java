@@ -137,9 +137,9 @@ public final class StarChart {
         switch (what) {
             case 0: return today.day;
             case 1: return today.worth;
-            case 2: return today.sumOf(today.liking, sheet.children);
-            case 3: return today.sumOf(today.pages, sheet.children);
-            case 4: return today.sumOf(today.stars, sheet.children);
+            case 2: return Course.sumOf(today.liking, sheet.children);
+            case 3: return Course.sumOf(today.pages, sheet.children);
+            case 4: return Course.sumOf(today.stars, sheet.children);
             default: return BAD;
         }
     }
@@ -404,7 +404,7 @@ public final class StarChart {
     private int likingOn(int n) {
         dream.begin(guess, 0);
         for (int day = 0; day < n; day++) dream.pass(guess, tunes);
-        return dream.sumOf(dream.liking, guess.children);
+        return Course.sumOf(dream.liking, guess.children);
     }
 
     /** The jar holds what each child would read and have of it NOW, were there no stars but the jar's. */
@@ -556,7 +556,7 @@ public final class StarChart {
             System.arraycopy(other.stars, 0, stars, 0, MOST_CHILDREN);
         }
 
-        int sumOf(int[] row, int many) {
+        static int sumOf(int[] row, int many) {
             int sum = 0;
             for (int c = 0; c < many && c < row.length; c++) sum += row[c];
             return sum;

@@ -180,6 +180,23 @@ final class ClassTest {
         text("plan 1 2;plan 1 2;", -19);
         text("plan 1 2;child 1 1 1;plan 3 4;", -31);
         text("child 1 1 1;0", -22);
+        for (String word : new String[] {"dhild", "aook", "qlan", "ay", "hin", "after", "childz", "achild", "z", "a"}) text(word + " 1 1 1;", -10);
+        text("plan 1 2 bfter;", -19);
+        text("plan 1 2 uhin 3;", -19);
+        text("book 1 1;qay 0 1;", -19);
+        // The signs next to a, z, 0 and 9 are none of these.
+        for (String sign : new String[] {"`", "{", "/", ":"}) {
+            text("child" + sign + " 1 1 1;", -15);
+            text("child 1" + sign + " 1 1;", -17);
+        }
+        text("child;", -15);
+        text("child 1;", -17);
+        text("book;", -14);
+        text("book 1;", -16);
+        text("plan;", -14);
+        text("plan 1;", -16);
+        text("book 1 1;pay;", -22);
+        text("book 1 1;pay 0;", -24);
         // The first fault counts, whatever comes behind it.
         text("child 1 x 1;plan 5 4;", -18);
     }

@@ -99,6 +99,14 @@ final class ForetoldTest {
         // Thin days praise, too, if enough is paid: 3 * 1 / 2 is 1 on the first day behind.
         StarChart z = Due.of("child 50 6 5;book 6 4;plan 0 0 after thin 1;");
         threeOf(z, 0, 2, 1, 2, 56);
+        // It reads the other sort, whose stars don't count here.
+        StarChart w = Due.of("child 50 6 5;book 6 4;book 3 9;plan 0 3 after;pay 1 5;");
+        threeOf(w, 0, 3, 0, 0, 53);
+        threeOf(w, 1, 3, 1, 3, 59);
+        // Only 54 stars come up to the 54 joys of a book too hard to read a page of.
+        StarChart v = Due.of("child 60 1 1;book 1 0;book 9 9;");
+        v.tune(2, 0);
+        threeOf(v, 0, 1, 9, 1, 61);
         Due.is("the plan is as it was", z.plan(1), 0);
         Due.is("the pay is as it was", z.book(0, 2), 0);
     }
@@ -116,6 +124,12 @@ final class ForetoldTest {
         x.tune(2, 2);
         Due.is("who reads without stars", x.line(6, 5, 1), 25);
         Due.is("unforeseen", Due.of("book 2 4;plan 0 1 after;pay 0 1;").line(6, 5, 9), StarChart.NONE);
+        // 90 joys and 9 stars come up to an idle 99, and 20 * 9 / 99 are bought.
+        StarChart y = Due.of("book 6 9;plan 0 1;pay 0 1;");
+        y.tune(0, 99);
+        y.tune(1, 0);
+        y.tune(2, 20);
+        Due.is("the greatest liking alone", y.line(9, 1, 1), 100);
         int[][] bad = {{0, 5, 5}, {10, 5, 5}, {5, -1, 5}, {5, 10, 5}, {5, 5, -1}, {5, 5, 100}};
         for (int[] row : bad) Due.is("line", x.line(row[0], row[1], row[2]), StarChart.BAD);
         int[][] good = {{1, 0, 0}, {9, 9, 0}, {9, 0, 99}};
@@ -170,6 +184,8 @@ final class ForetoldTest {
         Due.is("not its own as it is", y.stays(0, 1), 0);
         Due.is("half on a thin day", Due.of(one + "plan 2 2 thin 1;").stays(0, 0), 4);
         Due.is("nothing on no day", Due.of(one + "plan 2 2;").stays(0, 0), StarChart.NONE);
+        Due.is("9 at most", Due.of("child 60 1 1;book 1 0;book 9 9;plan 0 5;").stays(0, 0), 9);
+        Due.is("no 10", Due.of("child 62 1 1;book 1 0;book 9 9;plan 0 5;").stays(0, 0), StarChart.NONE);
         Due.is("unforeseen", Due.of(one + "plan 2 5 after;").stays(0, 0), StarChart.NONE);
         Due.is("equal, the least sort", Due.of("child 25 6 5;book 6 6;book 3 6;plan 0 5;").stays(0, 0), 0);
         Due.is("equal, not the least", Due.of("child 25 6 5;book 6 6;book 3 6;plan 0 5;").stays(0, 1), 1);

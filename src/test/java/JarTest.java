@@ -32,6 +32,11 @@ final class JarTest {
         rest(x, 7, 1, 1, 7);
         rest(x, 1, 99, 1, 3);
         rest(x, 999, 99, 1, 3);
+        // 99 stars are 99 joys, no more, and make up for an idle 99, no more.
+        StarChart y = Due.of("child 0 6 1;book 2 4;");
+        y.tune(0, 99);
+        rest(y, 18, 99, 2, 0);
+        rest(y, 18, 98, 1, 0);
         // What leaves it as it is does not move it: of no gain, it may read or not.
         rest(Due.of("child 25 6 5;book 2 4;"), 1, 0, 2, 0);
         rest(Due.of("book 2 4;"), 5, 5, 1, 0);
@@ -88,6 +93,7 @@ final class JarTest {
         Due.is("6 more are 7 at least", x.blamed(7, 3), 2);
         Due.is("all read", x.blamed(12, 7), StarChart.NONE);
         Due.is("all read, in vain", x.blamed(999, 7), StarChart.NONE);
+        Due.is("none read", x.blamed(1, 0), 0);
         Due.is("none read", x.blamed(2, 0), 0);
         Due.is("none read", x.blamed(4, 0), 0);
         Due.is("none read", x.blamed(5, 0), 2);
