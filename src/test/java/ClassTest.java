@@ -97,129 +97,122 @@ final class ClassTest {
         Due.is("no child", x.count(0), 0);
     }
 
-    private static void text(String text, int want) {
-        StarChart x = new StarChart();
-        Due.type(x, text);
-        Due.is("chart() of '" + text + "'", x.chart(), want);
-        Due.is("bytes behind '" + text + "'", x.count(3), want < 0 ? text.length() : 0);
-    }
-
     private static void goodTexts() {
-        text("", 0);
-        text("   ", 0);
-        text("child 0 1 0;", 1);
-        text("child 100 9 9;", 1);
-        text("book 1 0;book 9 9;", 2);
-        text("plan 0 0;", 1);
-        text("plan 99 99;", 1);
-        text("plan 0 99;", 1);
-        text("plan 1 2 after;", 1);
-        text("plan 1 2 thin 0;", 1);
-        text("plan 1 2 thin 20;", 1);
-        text("plan 1 2 after thin 3;", 1);
-        text("book 1 1;pay 0 0;pay 0 9;", 3);
-        text("  child  5   5 5 ; book 1 1 ;  ", 2);
-        text("child5 5 5;book1 1;plan1 2after thin3;pay0 9;", 4);
-        text("child 5 5 5;plan 3 3;child 5 5 5;book 2 2;pay 0 1;book 3 3;pay 1 1;pay 0 2;", 8);
+        Due.chart("", 0);
+        Due.chart("   ", 0);
+        Due.chart("child 0 1 0;", 1);
+        Due.chart("child 100 9 9;", 1);
+        Due.chart("book 1 0;book 9 9;", 2);
+        Due.chart("plan 0 0;", 1);
+        Due.chart("plan 99 99;", 1);
+        Due.chart("plan 0 99;", 1);
+        Due.chart("plan 1 2 after;", 1);
+        Due.chart("plan 1 2 thin 0;", 1);
+        Due.chart("plan 1 2 thin 20;", 1);
+        Due.chart("plan 1 2 after thin 3;", 1);
+        Due.chart("book 1 1;pay 0 0;pay 0 9;", 3);
+        Due.chart("  child  5   5 5 ; book 1 1 ;  ", 2);
+        Due.chart("child5 5 5;book1 1;plan1 2after thin3;pay0 9;", 4);
+        Due.chart("child 5 5 5;plan 3 3;child 5 5 5;book 2 2;pay 0 1;book 3 3;pay 1 1;pay 0 2;", 8);
     }
 
     private static void badNumbers() {
-        text("child 101 1 1;", -16);
-        text("child 1 0 1;", -18);
-        text("child 1 10 1;", -18);
-        text("child 1 1 10;", -20);
-        text("child 1 1 100;", -20);
-        text("book 0 1;", -15);
-        text("book 10 1;", -15);
-        text("book 1 10;", -17);
-        text("plan 100 100;", -15);
-        text("plan 0 100;", -17);
-        text("plan 5 4;", -17);
-        text("plan 1 2 thin 21;", -24);
-        text("pay 0 1;", -14);
-        text("pay 0 1;book 1 1;", -14);
-        text("book 1 1;pay 1 1;", -23);
-        text("book 1 1;pay 4 1;", -23);
-        text("book 1 1;pay 0 10;", -25);
-        text("child 01 1 1;", -16);
-        text("child 00 1 1;", -16);
-        text("child 1 01 1;", -18);
-        text("child 1000 1 1;", -16);
-        text("child 99999999999999999999 1 1;", -16);
-        text("child 4294967297 1 1;", -16);
+        Due.chart("child 101 1 1;", -16);
+        Due.chart("child 1 0 1;", -18);
+        Due.chart("child 1 10 1;", -18);
+        Due.chart("child 1 1 10;", -20);
+        Due.chart("child 1 1 100;", -20);
+        Due.chart("book 0 1;", -15);
+        Due.chart("book 10 1;", -15);
+        Due.chart("book 1 10;", -17);
+        Due.chart("plan 100 100;", -15);
+        Due.chart("plan 0 100;", -17);
+        Due.chart("plan 5 4;", -17);
+        Due.chart("plan 1 2 thin 21;", -24);
+        Due.chart("pay 0 1;", -14);
+        Due.chart("pay 0 1;book 1 1;", -14);
+        Due.chart("book 1 1;pay 1 1;", -23);
+        Due.chart("book 1 1;pay 4 1;", -23);
+        Due.chart("book 1 1;pay 0 10;", -25);
+        Due.chart("child 01 1 1;", -16);
+        Due.chart("child 00 1 1;", -16);
+        Due.chart("child 1 01 1;", -18);
+        Due.chart("child 1000 1 1;", -16);
+        Due.chart("child 99999999999999999999 1 1;", -16);
+        Due.chart("child 4294967297 1 1;", -16);
     }
 
     private static void badTokens() {
-        text(";", -10);
-        text("5;", -10);
-        text("  after;", -12);
-        text("thin 1;", -10);
-        text("childs 1 1 1;", -10);
-        text("chil 1 1 1;", -10);
-        text("childbook 1 1;", -10);
-        text("Child 1 1 1;", -10);
-        text("child 1 1 1;;", -22);
-        text("child 1 1 1 1;", -22);
-        text("child 1 1;", -19);
-        text("child 1 1 1;?", -22);
-        text("child 1 1 1;chi?ld 1 1 1;", -22);
-        text("child\t1 1 1;", -15);
-        text("child 1 1 1;\n", -22);
-        text("child 1 1 1;" + (char) 233, -22);
-        text("child 1 1 1;" + (char) 0, -22);
-        text("child 1 1 1;" + (char) 160, -22);
-        text("child -1 1 1;", -16);
-        text("child 1 book 1;", -18);
-        text("book 1 1 pay 0 1;", -19);
-        text("plan 1 2 thin;", -23);
-        text("plan 1 2 after after;", -25);
-        text("plan 1 2 thin 3 after;", -26);
-        text("plan 1 2 thin 3 thin 3;", -26);
-        text("plan 1 2afterthin 3;", -18);
-        text("plan 1 after;", -17);
-        text("plan 1 2;plan 1 2;", -19);
-        text("plan 1 2;child 1 1 1;plan 3 4;", -31);
-        text("child 1 1 1;0", -22);
-        for (String word : new String[] {"dhild", "aook", "qlan", "ay", "hin", "after", "childz", "achild", "z", "a"}) text(word + " 1 1 1;", -10);
-        text("plan 1 2 bfter;", -19);
-        text("plan 1 2 uhin 3;", -19);
-        text("book 1 1;qay 0 1;", -19);
+        Due.chart(";", -10);
+        Due.chart("5;", -10);
+        Due.chart("  after;", -12);
+        Due.chart("thin 1;", -10);
+        Due.chart("childs 1 1 1;", -10);
+        Due.chart("chil 1 1 1;", -10);
+        Due.chart("childbook 1 1;", -10);
+        Due.chart("Child 1 1 1;", -10);
+        Due.chart("child 1 1 1;;", -22);
+        Due.chart("child 1 1 1 1;", -22);
+        Due.chart("child 1 1;", -19);
+        Due.chart("child 1 1 1;?", -22);
+        Due.chart("child 1 1 1;chi?ld 1 1 1;", -22);
+        Due.chart("child\t1 1 1;", -15);
+        Due.chart("child 1 1 1;\n", -22);
+        Due.chart("child 1 1 1;" + (char) 233, -22);
+        Due.chart("child 1 1 1;" + (char) 0, -22);
+        Due.chart("child 1 1 1;" + (char) 160, -22);
+        Due.chart("child -1 1 1;", -16);
+        Due.chart("child 1 book 1;", -18);
+        Due.chart("book 1 1 pay 0 1;", -19);
+        Due.chart("plan 1 2 thin;", -23);
+        Due.chart("plan 1 2 after after;", -25);
+        Due.chart("plan 1 2 thin 3 after;", -26);
+        Due.chart("plan 1 2 thin 3 thin 3;", -26);
+        Due.chart("plan 1 2afterthin 3;", -18);
+        Due.chart("plan 1 after;", -17);
+        Due.chart("plan 1 2;plan 1 2;", -19);
+        Due.chart("plan 1 2;child 1 1 1;plan 3 4;", -31);
+        Due.chart("child 1 1 1;0", -22);
+        for (String word : new String[] {"dhild", "aook", "qlan", "ay", "hin", "after", "childz", "achild", "z", "a"}) Due.chart(word + " 1 1 1;", -10);
+        Due.chart("plan 1 2 bfter;", -19);
+        Due.chart("plan 1 2 uhin 3;", -19);
+        Due.chart("book 1 1;qay 0 1;", -19);
         // The signs next to a, z, 0 and 9 are none of these.
         for (String sign : new String[] {"`", "{", "/", ":"}) {
-            text("child" + sign + " 1 1 1;", -15);
-            text("child 1" + sign + " 1 1;", -17);
+            Due.chart("child" + sign + " 1 1 1;", -15);
+            Due.chart("child 1" + sign + " 1 1;", -17);
         }
-        text("child;", -15);
-        text("child 1;", -17);
-        text("book;", -14);
-        text("book 1;", -16);
-        text("plan;", -14);
-        text("plan 1;", -16);
-        text("book 1 1;pay;", -22);
-        text("book 1 1;pay 0;", -24);
+        Due.chart("child;", -15);
+        Due.chart("child 1;", -17);
+        Due.chart("book;", -14);
+        Due.chart("book 1;", -16);
+        Due.chart("plan;", -14);
+        Due.chart("plan 1;", -16);
+        Due.chart("book 1 1;pay;", -22);
+        Due.chart("book 1 1;pay 0;", -24);
         // The first fault counts, whatever comes behind it.
-        text("child 1 x 1;plan 5 4;", -18);
+        Due.chart("child 1 x 1;plan 5 4;", -18);
     }
 
     private static void earlyEnds() {
-        text("child", -15);
-        text("child ", -16);
-        text("child 1 1 1", -21);
-        text("child 1 1 1  ", -23);
-        text("plan 1", -16);
-        text("plan 1 2 thin", -23);
-        text("plan 1 2 after", -24);
-        text("book 1 1;pay", -22);
-        text("chil", -10);
+        Due.chart("child", -15);
+        Due.chart("child ", -16);
+        Due.chart("child 1 1 1", -21);
+        Due.chart("child 1 1 1  ", -23);
+        Due.chart("plan 1", -16);
+        Due.chart("plan 1 2 thin", -23);
+        Due.chart("plan 1 2 after", -24);
+        Due.chart("book 1 1;pay", -22);
+        Due.chart("chil", -10);
     }
 
     private static void tooMany() {
         String child = "child 1 1 1;", book = "book 1 1;";
-        text(child.repeat(8), 8);
-        text(child.repeat(9), -10 - 96);
-        text(child.repeat(8) + " child", -10 - 97);
-        text(book.repeat(4), 4);
-        text(book.repeat(5), -10 - 36);
+        Due.chart(child.repeat(8), 8);
+        Due.chart(child.repeat(9), -10 - 96);
+        Due.chart(child.repeat(8) + " child", -10 - 97);
+        Due.chart(book.repeat(4), 4);
+        Due.chart(book.repeat(5), -10 - 36);
     }
 
     private static void faultChangesNothing() {
