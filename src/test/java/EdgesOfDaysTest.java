@@ -410,5 +410,15 @@ final class EdgesOfDaysTest {
         }
         Due.is("again", x.anew(), 0);
         Due.is("nobody", new StarChart().anew(), 0);
+        // NOW alone: what is no part of it stays.
+        StarChart y = Look.rich();
+        long trace = y.trace();
+        Due.is("anew() on day 3", y.anew(), 3);
+        Due.is("the trace stays", y.trace(), trace);
+        Due.is("the lot stays", y.lot(0), 77);
+        Due.is("a tune stays", y.tune(0, 0), 3);
+        Due.is("trials stay", y.count(2), 3);
+        Due.is("the text stays", y.count(3), 30);
+        Due.is("an image stays", y.back(0), 2);
     }
 }
